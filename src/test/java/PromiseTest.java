@@ -351,24 +351,41 @@ public final class PromiseTest {
         due("turnInto(0, 0, 2)", x.turnInto(0, 0, 2), OUT);
     }
 
+    private static void tellsInManyBytes(int p) {
+        if (p >= 55296 && p <= 57343) {
+            return;
+        }
+        CharRows x = new CharRows();
+        x.point(p);
+        x.lay(0, p % 2);
+        byte[] bytes = new String(new int[] {p}, 0, 1).getBytes(java.nio.charset.StandardCharsets.UTF_8);
+        took(x, "tell of " + p, x.tell(1, 0, 0), bytes.length);
+        for (int k = 0; k < bytes.length; k++) {
+            due("byte " + k + " of " + p, x.at(1, k), bytes[k] & 255);
+        }
+        took(x, "read of " + p, x.read(2, 1, 0), p < 65536 ? 1 : 2);
+        due("pointAt of " + p, x.pointAt(2, 0), p);
+    }
+
     private static void tell() {
         CharRows x = new CharRows();
         refused(x, "tell of nothing", x.tell(0, 1, 0), 1);
-        for (int p : new int[] {0, 127, 128, 2047, 2048, 55295, 57344, 65535, 65536, 1114111}) {
-            x.fresh();
-            x.point(p);
-            x.lay(0, p % 2);
-            byte[] bytes = new String(new int[] {p}, 0, 1).getBytes(java.nio.charset.StandardCharsets.UTF_8);
-            took(x, "tell of " + p, x.tell(1, 0, 0), bytes.length);
-            for (int k = 0; k < bytes.length; k++) {
-                due("byte " + k + " of " + p, x.at(1, k), bytes[k] & 255);
-            }
+        for (int p = 0; p <= 1114111; p += p < 4200 ? 1 : 61) {
+            tellsInManyBytes(p);
         }
+        for (int p = 4096; p < 1114112; p += 4096) {
+            tellsInManyBytes(p - 1);
+            tellsInManyBytes(p);
+        }
+        tellsInManyBytes(1114111);
         lays(x, 0, 0, 513, 55297, 56322, 56320);
         took(x, "form 1", x.tell(1, 0, 1), 8);
         holds(x, 1, 2, 2, 1, 216, 1, 220, 2, 220, 0);
         took(x, "form 2", x.tell(1, 0, 2), 8);
         holds(x, 1, 2, 1, 2, 1, 216, 2, 220, 0, 220);
+        lays(x, 2, 1, 255, 65280, 65535);
+        took(x, "form 2 of listed", x.tell(3, 2, 2), 6);
+        holds(x, 3, 2, 255, 0, 0, 255, 255, 255);
         refused(x, "form 0 of a low one alone", x.tell(1, 0, 0), 5);
         due("place()", x.place(), 2);
         refused(x, "form 3 of great points", x.tell(1, 0, 3), 5);
@@ -688,6 +705,9 @@ public final class PromiseTest {
         compares(x, 5, 1, 1, -1);
         compares(x, 5, 2, 0, 0);
         compares(x, 5, 2, 1, -1);
+        lays(x, 7, 0, 98, 1);
+        compares(x, 7, 0, 0, 1);
+        compares(x, 7, 2, 1, 1);
         lays(x, 7, 2, 1, 200);
         lays(x, 8, 2, 1, 100, 100);
         for (int way = 0; way < 2; way++) {
@@ -758,6 +778,16 @@ public final class PromiseTest {
         for (int t : NO_TEXTS) {
             due("keep of no text", x.keep(t), OUT);
         }
+        x = new CharRows();
+        lays(x, 0, 0, 5, 6);
+        x.keep(0);
+        lays(x, 0, 0, 6, 6);
+        took(x, "another one by its first unit", x.keep(0), 1);
+        lays(x, 0, 0);
+        took(x, "an empty one", x.keep(0), 2);
+        lays(x, 1, 0);
+        took(x, "an empty one again", x.keep(1), 2);
+        due("empty ones are one", x.same(0, 1), 1);
     }
 
     private static void kept() {
