@@ -314,7 +314,6 @@ public final class CharRows {
         if (text.kindOfItems != BYTES) {
             return refuse(OTHER_SORT);
         }
-        // All bytes are read before their units are counted: broken ones go ahead of too many.
         int wrong = readUnits(text.items, form, work);
         if (wrong != NONE) {
             return refuseAt(wrong);
@@ -692,7 +691,10 @@ public final class CharRows {
         into.add(128 + p % 64);
     }
 
-    /** Reads bytes in a form; answers the place of what is broken, or NONE. */
+    /**
+     * Reads bytes in a form; answers the place of what is broken, or NONE. The reading ends at the
+     * first unit that is one too many: what is broken behind it is never come to.
+     */
     private static int readUnits(int[] bytes, int form, Row into) {
         into.empty();
         if (form == MANY_BYTES) {
@@ -702,10 +704,14 @@ public final class CharRows {
             into.addAll(bytes);
             return NONE;
         }
-        if (bytes.length % 2 != 0) {
-            return bytes.length - 1;
-        }
-        for (int k = 0; k < bytes.length - 1; k += 2) {
+        return readTwoBytes(bytes, form, into);
+    }
+
+    private static int readTwoBytes(int[] bytes, int form, Row into) {
+        for (int k = 0; k < bytes.length && into.count <= MOST_ITEMS; k += 2) {
+            if (k == bytes.length - 1) {
+                return k;
+            }
             int higher = form == HIGHER_FIRST ? bytes[k] : bytes[k + 1];
             int lower = form == HIGHER_FIRST ? bytes[k + 1] : bytes[k];
             into.add(higher * 256 + lower);
@@ -715,7 +721,7 @@ public final class CharRows {
 
     private static int readManyBytes(int[] bytes, Row into) {
         int next = 0;
-        for (int k = 0; k < bytes.length; k++) {
+        for (int k = 0; k < bytes.length && into.count <= MOST_ITEMS; k++) {
             if (k >= next) {
                 int p = pointFrom(bytes, k);
                 if (p == NONE) {

@@ -249,8 +249,7 @@ public final class ModelTest {
             List<Integer> units = new ArrayList<>();
             if (form == 1 || form == 2) {
                 if (bytes.length % 2 == 1) {
-                    place = bytes.length - 1;
-                    return no(5);
+                    return brokenBehind(bytes.length / 2, bytes.length - 1);
                 }
                 ByteBuffer buffer = ByteBuffer.wrap(bytes);
                 while (buffer.remaining() > 1) {
@@ -264,12 +263,20 @@ public final class ModelTest {
                 CharBuffer out = CharBuffer.allocate(1000);
                 CoderResult result = decoder.decode(in, out, true);
                 if (result.isError()) {
-                    place = in.position();
-                    return no(5);
+                    return brokenBehind(out.position(), in.position());
                 }
                 units = list(out.flip().chars().toArray());
             }
             return units.size() > 60 ? no(6) : set(t, 0, units);
+        }
+
+        /** Too many units ahead of what is broken are come to first. */
+        int brokenBehind(int units, int where) {
+            if (units > 60) {
+                return no(6);
+            }
+            place = where;
+            return no(5);
         }
 
         boolean parts(Text x, int k) {
@@ -442,6 +449,9 @@ public final class ModelTest {
     private static final int[] BYTES = {
         0, 65, 127, 128, 143, 144, 159, 160, 191, 192, 193, 194, 223, 224, 237, 239, 240, 244, 245, 255,
     };
+    private static final int[] GOOD_POINTS = {
+        0, 127, 128, 2047, 2048, 55295, 57344, 65535, 65536, 1114111,
+    };
     private static final int[] PLACES = {
         -1, 61, 239, 240, 241, Integer.MIN_VALUE, Integer.MAX_VALUE,
     };
@@ -531,6 +541,15 @@ public final class ModelTest {
         }
     }
 
+    private boolean isWrong(String where) {
+        if (got == want && real.code() == model.code && real.place() == model.place) {
+            return false;
+        }
+        System.out.println(where + ": " + call + " answered " + got + ", code " + real.code() + ", place " + real.place()
+            + "; due is " + want + ", code " + model.code + ", place " + model.place);
+        return true;
+    }
+
     private boolean isLike(int t) {
         if (real.sort(t) != model.sort(t) || real.length(t) != model.length(t)) {
             return false;
@@ -540,27 +559,60 @@ public final class ModelTest {
                 return false;
             }
         }
-        return real.place() == model.place && real.kept() == model.keptTexts.size();
+        return real.kept() == model.keptTexts.size();
     }
 
     private boolean runs(int seed, int steps) {
         for (int k = 0; k < steps; k++) {
             step();
-            if (got != want || real.code() != model.code) {
-                System.out.println("seed " + seed + ", call " + k + ": " + call + " answered " + got + ", code "
-                    + real.code() + "; due is " + want + ", code " + model.code);
+            if (isWrong("seed " + seed + ", call " + k)) {
                 return false;
             }
         }
         if (!isLike(seed % 10)) {
-            System.out.println("seed " + seed + ": text " + seed % 10 + ", place or kept is another one, last call " + call);
+            System.out.println("seed " + seed + ": text " + seed % 10 + " or kept is another one, last call " + call);
             return false;
+        }
+        return true;
+    }
+
+    private void layGoodBytes() {
+        note("fresh", real.fresh(), model.fresh());
+        int most = 1 + random.nextInt(20);
+        for (int k = 0; k < most; k++) {
+            int p = random.nextInt(3) == 0 ? pick(GOOD_POINTS) : 65;
+            note("point " + p, real.point(p), model.point(p));
+        }
+        note("lay 1 0", real.lay(1, 0), model.lay(1, 0));
+        note("tell 1 1 0", real.tell(1, 1, 0), model.tell(1, 1, 0));
+    }
+
+    /** Long rows of bytes, of which at most one is another one than is told, read in each form. */
+    private boolean readsLong(int seed) {
+        note("lay 0 2", real.lay(0, 2), model.lay(0, 2));
+        for (int k = 0; k < 9; k++) {
+            layGoodBytes();
+            note("join 0 0 1", real.join(0, 0, 1), model.join(0, 0, 1));
+        }
+        int where = 40 + random.nextInt(60);
+        int what = pick(BYTES);
+        note("put 0 " + where + " " + what, real.put(0, where, what), model.put(0, where, what));
+        for (int form = 0; form < 4; form++) {
+            note("read 2 0 " + form, real.read(2, 0, form), model.read(2, 0, form));
+            if (isWrong("long read, seed " + seed)) {
+                return false;
+            }
         }
         return true;
     }
 
     public static void main(String[] args) {
         int wrong = 0;
+        for (int seed = 0; seed < RUNS && wrong < 20; seed++) {
+            if (!new ModelTest(seed).readsLong(seed)) {
+                wrong++;
+            }
+        }
         for (int seed = 0; seed < RUNS && wrong < 20; seed++) {
             if (!new ModelTest(seed).runs(seed, 1 + seed * 31 % MOST_STEPS)) {
                 wrong++;

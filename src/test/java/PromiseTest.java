@@ -460,6 +460,7 @@ public final class PromiseTest {
         refused(x, "odd, form 2", x.read(1, 0, 2), 5);
         due("place()", x.place(), 0);
         readsTooMany();
+        readsTooManyOrBroken();
         for (int t : NO_TEXTS) {
             due("read to no text", x.read(t, 0, 0), OUT);
             due("read of no text", x.read(0, t, 0), OUT);
@@ -485,10 +486,6 @@ public final class PromiseTest {
         due("place()", x.place(), 120);
         x.join(4, 4, 1);
         refused(x, "61 units, form 2", x.read(9, 4, 2), 6);
-        lays(x, 1, 2, 255);
-        x.join(2, 2, 1);
-        refused(x, "61 units, then broken: 5 ahead of 6", x.read(9, 2, 0), 5);
-        due("place()", x.place(), 61);
         laysGreatest(x, 5);
         x.tell(5, 5, 0);
         x.cut(6, 5, 0, 120);
@@ -496,6 +493,45 @@ public final class PromiseTest {
         x.cut(6, 5, 0, 124);
         refused(x, "31 pairs", x.read(9, 6, 0), 6);
         due("text stays", x.length(9), 60);
+    }
+
+    /** Reads text 0, then these bytes behind it. */
+    private static void readsBehind(CharRows x, int form, int code, int where, int... bytes) {
+        lays(x, 1, 2, bytes);
+        x.join(2, 0, 1);
+        refused(x, x.length(0) + " bytes, then " + java.util.Arrays.toString(bytes) + ", form " + form,
+            x.read(9, 2, form), code);
+        due("place()", x.place(), where);
+        due("sort(9)", x.sort(9), NONE);
+    }
+
+    private static void readsTooManyOrBroken() {
+        CharRows x = new CharRows();
+        laysMany(x, 0, 2, 60, 65);
+        readsBehind(x, 0, 6, NONE, 65, 255);
+        readsBehind(x, 0, 6, NONE, 194, 128, 194);
+        readsBehind(x, 0, 6, NONE, 240, 144, 128, 128, 128);
+        readsBehind(x, 0, 5, 60, 255);
+        readsBehind(x, 0, 5, 60, 194);
+        readsBehind(x, 0, 5, 60, 240, 144, 128, 65);
+        readsBehind(x, 0, 6, 60, 65, 255);
+        laysMany(x, 0, 2, 59, 65);
+        readsBehind(x, 0, 6, 60, 240, 144, 128, 128, 255);
+        readsBehind(x, 0, 5, 59, 240, 143, 128, 128);
+        readsBehind(x, 0, 5, 60, 65, 255);
+        readsBehind(x, 0, 5, 61, 194, 128, 255);
+        laysMany(x, 0, 2, 60, 65);
+        x.join(0, 0, 0);
+        for (int form = 1; form <= 2; form++) {
+            readsBehind(x, form, 5, 120, 255);
+            readsBehind(x, form, 6, 120, 216, 216, 255);
+        }
+        x.join(0, 0, 0);
+        x.put(0, 239, 255);
+        refused(x, "239 units, then broken", x.read(9, 0, 0), 6);
+        x.put(0, 59, 255);
+        refused(x, "59 units, then broken", x.read(9, 0, 0), 5);
+        due("place()", x.place(), 59);
     }
 
     private static void cut() {
