@@ -52,10 +52,10 @@ public final class BytesTest extends Sentences {
     private static void readsTooMany(int form, int... bytes) {
         CharRows x = new CharRows();
         laysBytes(x, 0, bytes);
-        lays(x, 2, BYTES, 255);
-        x.read(1, 2, 0);
+        lays(x, 2, BYTES, 97, 97, 255);
+        brokenAt(x, "read", x.read(1, 2, 0), 2);
         refused(x, "read of " + Arrays.toString(bytes) + ", form " + form, x.read(1, 0, form), 6);
-        due("place()", x.place(), 0);
+        due("place()", x.place(), 2);
         due("sort(1)", x.sort(1), NONE);
     }
 

@@ -253,6 +253,21 @@ public final class DraftTest extends Sentences {
         holds(x, 0, PACKED, 9);
     }
 
+    @Says(promise = 6, words = "THE DRAFT is empty")
+    static void noneOfWhatItHadIsLeft() {
+        CharRows x = new CharRows();
+        drafts(x, 97, LOW, LOW);
+        x.fresh();
+        took(x, "unit(55296)", x.unit(HIGH), 1);
+        for (int sort = PACKED; sort <= BYTES; sort++) {
+            took(x, "lay(0, " + sort + ")", x.lay(0, sort), 1);
+        }
+        x.lay(0, LISTED);
+        holds(x, 0, LISTED, HIGH);
+        x.lay(0, PACKED);
+        took(x, "points(0)", x.points(0), 1);
+    }
+
     @Says(promise = 6, words = "(No CODE.)")
     static void freshLeavesTheCode() {
         CharRows x = new CharRows();

@@ -46,6 +46,23 @@ public final class OrderTest extends Sentences {
         }
     }
 
+    @Says(promise = 24, words = "Two TEXTS of one SORT, or one PACKED and one LISTED")
+    static void theSortsThatAreCompared() {
+        CharRows x = new CharRows();
+        drafts(x, 97);
+        for (int sort = PACKED; sort <= BYTES; sort++) {
+            x.lay(sort, sort);
+        }
+        for (int way = 0; way < 2; way++) {
+            for (int a = PACKED; a <= BYTES; a++) {
+                for (int b = PACKED; b <= BYTES; b++) {
+                    due("compare(" + a + ", " + b + ", " + way + ")", x.compare(a, b, way), 0);
+                    due("code()", x.code(), (a == BYTES) == (b == BYTES) ? 0 : 2);
+                }
+            }
+        }
+    }
+
     @Says(promise = 24, words = "else by how many they have: -1 a is less, 0, 1.")
     static void emptyOnesAndThoseThatBeginAlike() {
         compares(0, 0, of(), of());
@@ -54,6 +71,22 @@ public final class OrderTest extends Sentences {
         compares(0, 0, of(97, 98), of(97, 98));
         compares(-1, -1, times(59, 97), times(60, 97));
         compares(0, 0, times(60, 97), times(60, 97));
+    }
+
+    @Says(promise = 24, words = "else by how many they have: -1 a is less, 0, 1.")
+    static void longOnesThatWereComparedBeforeTellNothing() {
+        for (int sort = PACKED; sort <= BYTES; sort++) {
+            CharRows x = new CharRows();
+            lays(x, 0, sort, 200, 200, 200);
+            lays(x, 1, sort, 97, 98);
+            lays(x, 2, sort, 97);
+            for (int way = 0; way < 2; way++) {
+                took(x, "compare(0, 0, " + way + ")", x.compare(0, 0, way), 0);
+                took(x, "compare(1, 2, " + way + ")", x.compare(1, 2, way), 1);
+                took(x, "compare(0, 0, " + way + ")", x.compare(0, 0, way), 0);
+                took(x, "compare(2, 1, " + way + ")", x.compare(2, 1, way), -1);
+            }
+        }
     }
 
     @Says(promise = 24, words = "by the first ITEM (WAY 0; of a LISTED one its UNITS), POINT (WAY 1) that is another one")
@@ -262,6 +295,21 @@ public final class OrderTest extends Sentences {
         due("kept()", x.kept(), 1);
     }
 
+    @Says(promise = 26, words = "it is kept itself, if there is none: its number among those kept.")
+    static void theFirstAndTheTwelfthAreKeptThemselves() {
+        CharRows x = new CharRows();
+        for (int k = 0; k < 12; k++) {
+            lays(x, 0, PACKED, k);
+            x.share(1, 0);
+            took(x, "keep(0)", x.keep(0), k);
+            due("it is as it was", x.same(0, 1), 1);
+            x.put(1, 0, 100 + k);
+            lays(x, 2, PACKED, 100 + k);
+            took(x, "one like it", x.keep(2), k);
+            due("is that one", x.same(1, 2), 1);
+        }
+    }
+
     @Says(promise = 26, words = "has the same UNITS")
     static void thoseThatAreNearlyLikeIt() {
         CharRows x = new CharRows();
@@ -459,9 +507,10 @@ public final class OrderTest extends Sentences {
     static void kindLeavesTheCode() {
         CharRows x = new CharRows();
         x.length(0);
-        x.kind(65);
-        x.kind(-1);
-        due("code()", x.code(), 1);
+        for (int p : of(HIGH, LOW, 48, 65, 32, 65536, 0, -1)) {
+            x.kind(p);
+            due("code() after kind(" + p + ")", x.code(), 1);
+        }
     }
 
     public static void main(String[] args) {

@@ -249,6 +249,18 @@ public final class TermsTest extends Sentences {
         }
     }
 
+    @Says(promise = 0, words = "An object is used for at most 512 calls after it has been made")
+    static void the512thCallIsAnswered() {
+        CharRows x = new CharRows();
+        laysBytes(x, 0, times(240, 7));
+        lays(x, 1, BYTES);
+        // Both texts above took 262 calls, the look at the end is the last one.
+        for (int calls = 262; calls < 511; calls++) {
+            due("join(2, 0, 1)", x.join(2, 0, 1), 240);
+        }
+        due("at(2, 239)", x.at(2, 239), 7);
+    }
+
     public static void main(String[] args) {
         runAll(TermsTest.class);
     }

@@ -209,6 +209,22 @@ public final class TextTest extends Sentences {
         refused(x, "pointAt(2, 60)", x.pointAt(2, 60), 3);
     }
 
+    @Says(promise = 14, words = "POINT k of a PACKED, LISTED TEXT.")
+    static void textsThatAreAskedByTurns() {
+        CharRows x = new CharRows();
+        lays(x, 0, PACKED, 97, 98);
+        lays(x, 1, PACKED, HIGH, LOW);
+        lays(x, 2, LISTED);
+        took(x, "pointAt(0, 1)", x.pointAt(0, 1), 98);
+        took(x, "pointAt(1, 0)", x.pointAt(1, 0), 65536);
+        refused(x, "pointAt(1, 1)", x.pointAt(1, 1), 3);
+        took(x, "pointAt(0, 0)", x.pointAt(0, 0), 97);
+        refused(x, "pointAt(2, 0)", x.pointAt(2, 0), 3);
+        took(x, "points(1)", x.points(1), 1);
+        took(x, "points(0)", x.points(0), 2);
+        took(x, "points(2)", x.points(2), 0);
+    }
+
     @Says(promise = 14, words = "CODES 1, 2, 3.")
     static void noSuchPoint() {
         CharRows x = empties();
