@@ -34,7 +34,7 @@ public final class CharRows {
 
         Text(int kindOfItems, Row row) {
             this.kindOfItems = kindOfItems;
-            this.items = Arrays.copyOf(row.items, row.count);
+            this.items = Arrays.copyOf(row.items, row.count < 0 ? 0 : row.count);
         }
 
         int mostItems() {
@@ -486,7 +486,7 @@ public final class CharRows {
             return refuse(OTHER_SORT);
         }
         int number = keptLike(text);
-        if (number != NONE) {
+        if (number >= 0 && number < keptTexts.length) {
             texts[t] = keptTexts[number];
             return done(number);
         }
